@@ -141,6 +141,10 @@ public final class ActsTest {
     }
 
     private static void dent() {
+        EarTrumpets other = Due.house("m2,0;d0,1,2,3;o1,0,1,6;");
+        Due.due("what it was", other.dent(1, 2), 6);
+        Due.due("the other one stays", other.pipe(0, 3), 3);
+        Due.due("another", other.pipe(1, 3), 2);
         EarTrumpets x = Due.house("m2,0;d0,1,2,3;");
         x.speak(0, 1, 20);
         x.breathe(1);

@@ -39,6 +39,7 @@ public final class AsksTest {
         Due.same("as it was", Due.look(x), then);
         x.breathe(2);
         Due.due("restore", x.restore(1), 1);
+        Due.due("no act can be undone", x.count(6), 0);
         Due.same("as it was later", Due.look(x), later);
         Due.due("restore twice", x.restore(0), 1);
         Due.due("breath", x.count(3), 2);

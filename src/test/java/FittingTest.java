@@ -27,6 +27,11 @@ public final class FittingTest {
         faint.speak(0, 4, 2);
         Due.due("all but leaky, old", faint.who(0, 0, 1, 0, 0, 1), 1 << 1 | 1 << 2 | 1 << 3);
         Due.due("its kind stays", faint.kind(0), 5);
+        EarTrumpets two = Due.house("m3,0;b0,1,1,3;b1,2,1,3;");
+        two.speak(0, 4, 50);
+        Due.lay(two, 0, -1, 7);
+        Due.due("the second one", two.who(1, 0, 2, 0, 0, 2), 1 << 2 | 1 << 5);
+        Due.due("the first one", two.who(0, 0, 2, 0, 0, 2), 1 << 2 | 1 << 5);
     }
 
     private static void dents() {

@@ -97,6 +97,7 @@ public final class ForetoldTest {
         Due.due("one place", x.shuts(0, 16, 9, 1), 16);
         Due.due("all but itself", x.shuts(0, 31, 9, 1), 3);
         Due.due("too few breaths", x.shuts(0, 16, 2, 0), 0);
+        Due.due("one breath", x.shuts(0, 2, 1, 1), 1);
         Due.due("nobody told", x.shuts(0, 0, 30, 1), 0);
         Due.due("from elsewhere", x.shuts(1, 16, 30, 1), 4);
         x.speak(2, 1, 1);
@@ -131,12 +132,11 @@ public final class ForetoldTest {
     }
 
     private static void loudBy50() {
-        // Two half as loud and a narrow one by 9 + 2 leave 1 of 50; one more by 1 leaves nothing.
-        EarTrumpets x = Due.house("m4,2;l0,1,1,0;l1,2,1,0;n2,3,1,9;");
+        // Two narrow ones take 18 each, a third one 13, then 14.
+        EarTrumpets x = Due.house("m4,9;n0,1,1,9;n1,2,1,9;n2,3,1,4;");
         Due.due("just heard", x.shuts(0, 8, 9, 0), 1);
-        x.dent(2, 9);
-        EarTrumpets y = Due.house("m4,3;l0,1,1,0;l1,2,1,0;n2,3,1,9;");
-        Due.due("not heard", y.shuts(0, 8, 9, 0), 0);
+        x.dent(2, 5);
+        Due.due("not heard", x.shuts(0, 8, 9, 0), 0);
     }
 
     private static void opens() {
@@ -153,6 +153,7 @@ public final class ForetoldTest {
         Due.due("two", x.opens(0, 4, 9, 0), 2);
         Due.due("the least", x.opens(0, 4, 9, 1), 5);
         Due.due("too few breaths", x.opens(0, 4, 2, 1), Due.NONE);
+        Due.due("one breath", x.opens(1, 3, 1, 1), 4);
         Due.due("no way", x.opens(3, 0, 30, 0), Due.NONE);
         x.tap(1, 1);
         x.speak(0, 3, 1);
@@ -186,6 +187,10 @@ public final class ForetoldTest {
         Due.due("94", deaf.loud(0, 4, 30), 94);
         EarTrumpets deafer = Due.house("m6,9;n0,1,1,9;l1,2,1,0;l2,3,1,0;n3,4,1,9;b4,5,1,0;");
         Due.due("above 99", deafer.loud(0, 5, 30), Due.NONE);
+        EarTrumpets ring = Due.house("m6,8;n0,1,1,9;n1,2,1,9;n2,3,1,9;n3,4,1,9;n4,5,1,9;n5,0,1,5;");
+        Due.due("99", ring.loud(0, 0, 30), 99);
+        ring.dent(5, 6);
+        Due.due("100", ring.loud(0, 0, 30), Due.NONE);
         Due.due("n 0", x.loud(0, 1, 0), Due.BAD);
         Due.due("n 31", x.loud(0, 1, 31), Due.BAD);
         Due.due("horn 4", x.loud(4, 1, 1), Due.BAD);
@@ -231,10 +236,10 @@ public final class ForetoldTest {
         x.tap(1, 0);
         Due.due("no way", x.round(0), Due.NONE);
         Due.due("no way back", x.round(2), Due.NONE);
-        EarTrumpets faint = Due.house("m4,9;l0,1,1,0;l1,2,1,0;l2,3,1,0;b3,0,1,0;");
-        Due.due("by 90 just heard", faint.round(0), 4);
-        EarTrumpets fainter = Due.house("m4,9;l0,1,1,0;l1,2,1,0;l2,3,1,0;n3,0,1,2;");
-        Due.due("by 90 not heard", fainter.round(0), Due.NONE);
+        EarTrumpets faint = Due.house("m5,9;n0,1,1,9;n1,2,1,9;n2,3,1,9;n3,4,1,9;n4,0,1,8;");
+        Due.due("by 90 just heard", faint.round(0), 5);
+        faint.dent(4, 9);
+        Due.due("by 90 not heard", faint.round(0), Due.NONE);
         Due.due("horn 3", x.round(3), Due.BAD);
         Due.due("horn -1", x.round(-1), Due.BAD);
         Due.due("no house", new EarTrumpets().round(0), Due.BAD);
@@ -320,14 +325,9 @@ public final class ForetoldTest {
         Due.due("none", x.drawn(0, 1, 1), 0);
         x.speak(0, 1, 40);
         Due.due("sounds that are there", x.drawn(0, 7, 1), 1);
-        String before = Due.look(x);
-        for (int seed = 1; seed < 60; seed += 3) {
-            for (int n = 0; n <= 20; n++) {
-                Due.due("how often", x.drawn(n, seed, 0), sitting(n, seed, true));
-                Due.due("how many", x.drawn(n, seed, 1), sitting(n, seed, false));
-            }
-        }
-        Due.same("nothing changes", Due.look(x), before);
+        sittings("m3,0;b0,1,1,0;b1,2,2,0;b2,0,3,0;");
+        // Nothing is left of 40 behind the three PIPES.
+        sittings("m3,5;n0,1,1,8;n1,2,2,8;n2,0,1,9;");
         Due.due("n -1", x.drawn(-1, 1, 0), Due.BAD);
         Due.due("n 61", x.drawn(61, 1, 0), Due.BAD);
         Due.due("seed 0", x.drawn(1, 0, 0), Due.BAD);
@@ -337,9 +337,22 @@ public final class ForetoldTest {
         Due.due("STATE ahead of BAD", new EarTrumpets().drawn(99, 0, 9), Due.STATE);
     }
 
-    /** A sitting done by the calls that do what is foretold. */
-    private static int sitting(int n, int seed, boolean hearings) {
-        EarTrumpets y = Due.house("m3,0;b0,1,1,0;b1,2,2,0;b2,0,3,0;");
+    private static void sittings(String text) {
+        EarTrumpets x = Due.house(text);
+        x.speak(0, 1, 40);
+        String before = Due.look(x);
+        for (int seed = 1; seed < 60; seed += 3) {
+            for (int n = 0; n <= 20; n++) {
+                Due.due("how often", x.drawn(n, seed, 0), sitting(text, n, seed, true));
+                Due.due("how many", x.drawn(n, seed, 1), sitting(text, n, seed, false));
+            }
+        }
+        Due.same("nothing changes", Due.look(x), before);
+    }
+
+    /** A sitting in a house of three HORNS, done by the calls that do what is foretold. */
+    private static int sitting(String text, int n, int seed, boolean hearings) {
+        EarTrumpets y = Due.house(text);
         y.speak(0, 1, 40);
         long x = seed;
         int heard = 0;

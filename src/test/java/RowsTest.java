@@ -42,18 +42,26 @@ public final class RowsTest {
         Due.due("fewest", x.row(7, 0, Integer.MIN_VALUE), Due.SIZE);
         Due.due("BAD ahead of SIZE", x.row(0, 3, -1), Due.BAD);
         Due.due("what is found changes nothing", x.set(7, 39, 5), 5);
-        Due.due("in place of what is there", x.row(7, 2, 40), 40);
-        x.row(6, 2, 1);
-        Due.due("items are 0 at first", x.copy(7, 39, 6, 0, 1), 1);
-        Due.due("items are 0 at first", heldWords(x, 6), -1);
+        x.set(7, 0, 6);
+        Due.due("first", item(x, 7, 0), 6);
+        Due.due("last", item(x, 7, 39), 5);
+        Due.due("in place of what is there", x.row(7, 1, 40), 40);
+        for (int i = 0; i < 40; i++) {
+            Due.due("0 at first", item(x, 7, i), 0);
+        }
     }
 
-    /** A HORN that hears nothing: spoke() tells whether ITEM 0 is less 1; asked to see a ROW's ITEM. */
-    private static int heldWords(EarTrumpets x, int row) {
+    /** An ITEM that is a WORD, seen by who(): the one that, spoken, is HEARD as the ROW tells. */
+    private static int item(EarTrumpets x, int row, int i) {
         Due.read(x, "m2,0;b0,1,1,0;");
-        x.speak(0, 0, 9);
-        int zero = x.who(0, 2, 1, row, 0, 1);
-        return zero == 3 ? -1 : zero;
+        for (int word = 0; word < 10; word++) {
+            x.speak(0, word, 9);
+            if (x.who(0, 2, 1, row, i, 1) == 3) {
+                return word;
+            }
+            x.hush();
+        }
+        return Due.NONE;
     }
 
     private static void set() {
