@@ -10,6 +10,7 @@ public final class TextTest {
         tooManyPipes();
         faultStays();
         newHouseStandsInPlace();
+        shorterBehindLonger();
         Due.end();
     }
 
@@ -156,5 +157,21 @@ public final class TextTest {
         EarTrumpets fresh = Due.house("m2,0;" + PIPE + PIPE);
         Due.same("a house anew", Due.look(x), Due.look(fresh));
         Due.due("no act can be undone", x.undo(), Due.STATE);
+    }
+
+    /** Of a longer text that was on the tape before, nothing is read. */
+    private static void shorterBehindLonger() {
+        EarTrumpets x = Due.house("m2,0;" + PIPE);
+        Due.due("no pipe", Due.read(x, "m2,0;"), -1000105);
+        Due.due("fault", x.fault(), 1);
+        Due.due("no end", Due.read(x, "m2,0;b0,1,1,0"), -1000113);
+        Due.read(x, "m23,0;");
+        Due.due("fault", x.fault(), 2);
+        Due.due("no comma", Due.read(x, "m2"), -1000102);
+        Due.due("fault", x.fault(), 1);
+        Due.due("two pipes", Due.read(x, "m2,0;" + PIPE + PIPE), 2);
+        Due.due("one pipe", Due.read(x, "m2,0;" + PIPE), 1);
+        faulty("m" + "1".repeat(119), 1, 1);
+        faulty("m2,0;" + PIPE + "x".repeat(106), 14, 1);
     }
 }
