@@ -449,6 +449,9 @@ public final class BoundsTest {
         Due.due("none then", x.count(5), 0);
         Due.due("none in one", x.pipe(6, 5), 0);
         Due.due("undone", x.undo() >= 0 ? x.count(5) : -1, 28);
+        EarTrumpets dented = Due.house("m6,9;" + "o5,4,4,9;".repeat(7));
+        Due.due("none, whatever the dents", dented.count(5), 0);
+        Due.due("none, whatever the dents", dented.hush(), 0);
     }
 
     private static void places() {

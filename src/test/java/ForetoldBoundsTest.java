@@ -101,6 +101,11 @@ public final class ForetoldBoundsTest {
         Due.due("it is in yet", x.quiet(), 1);
         x.breathe(1);
         Due.due("now", x.quiet(), 0);
+        // What was HEARD at HORN 0 is in no PIPE any more.
+        EarTrumpets heard = Due.house("m2,0;b1,0,1,0;");
+        heard.speak(1, 9, 99);
+        heard.breathe(1);
+        Due.due("heard, and now quiet", heard.quiet(), 0);
     }
 
     // ---- SHUT, OPEN
