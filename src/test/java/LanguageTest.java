@@ -8,6 +8,7 @@ import java.util.ArrayList;
 import java.util.HashSet;
 import java.util.List;
 import java.util.Set;
+import java.util.regex.Matcher;
 import java.util.regex.Pattern;
 
 /** The rules of LANGUAGE.md that a look at the source, and at the classes, can tell. */
@@ -26,6 +27,8 @@ public final class LanguageTest {
             Due.due("ruled out: " + word, Pattern.compile(pattern).matcher(code).find() ? 1 : 0, 0);
         }
         Due.due("signs are 1 to 126", Pattern.compile("[^\n -~]").matcher(code).find() ? 1 : 0, 0);
+        library(code);
+        made(code);
         methodsAreShort(code);
         classes();
         Due.end();
@@ -33,6 +36,34 @@ public final class LanguageTest {
 
     private static String withoutComments(String text) {
         return text.replaceAll("(?s)/\\*.*?\\*/", "").replaceAll("//[^\n]*", "");
+    }
+
+    /** Rule 4: of the library only what the class needs of what stands there. */
+    private static void library(String code) {
+        Set<String> known = new HashSet<>(List.of("System.arraycopy", "Integer.bitCount", "Math.min", "Math.max"));
+        Set<String> own = new HashSet<>();
+        for (Class<?> one : EarTrumpets.class.getDeclaredClasses()) {
+            own.add(one.getSimpleName());
+        }
+        Matcher call = Pattern.compile("\\b([A-Z][a-z]\\w*)\\.(\\w+)\\(").matcher(code);
+        while (call.find()) {
+            String name = call.group(1) + "." + call.group(2);
+            Due.due("library: " + name, own.contains(call.group(1)) || known.contains(name) ? 1 : 0, 1);
+        }
+    }
+
+    /** All is made with the object: no call makes an object or an array, so that a run stays in its room. */
+    private static void made(String code) {
+        Pattern field = Pattern.compile("^ +(private )?final \\S+ \\w+ = new .*;$");
+        Pattern written = Pattern.compile("^ +private static final int\\[\\] \\w+ = \\{.*\\};$");
+        for (String line : code.split("\n")) {
+            if (Pattern.compile("\\bnew\\b").matcher(line).find()) {
+                Due.due("made with the object: " + line.trim(), field.matcher(line).matches() ? 1 : 0, 1);
+            } else if (line.contains("= {")) {
+                Due.due("made once: " + line.trim(), written.matcher(line).matches() ? 1 : 0, 1);
+            }
+        }
+        Due.due("no copies", Pattern.compile("\\bclone\\b|\\bArrays\\b").matcher(code).find() ? 1 : 0, 0);
     }
 
     /** Rule 11: some sixty lines. A method begins with a line that ends in ") {", but no statement's. */
